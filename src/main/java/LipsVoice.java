@@ -772,7 +772,6 @@ public final class LipsVoice {
         static final int WORD = 1;
         static final int NUMBER = 2;
         static final int SIGN = 3;
-        static final int BAD = 4;
 
         // Words as their letters' bytes in one number: two of them are compared without making a String.
         static final long SOUND_WORD = 0x736f756e64L;
@@ -832,7 +831,8 @@ public final class LipsVoice {
             } else if (isDigit(first)) {
                 readNumber();
             } else {
-                sort = isSignByte(first) ? SIGN : BAD;
+                // A byte that begins no token stands nowhere, as a sign that is asked for nowhere does.
+                sort = SIGN;
                 value = first;
                 stop = place + 1;
             }
@@ -885,22 +885,6 @@ public final class LipsVoice {
 
         private static boolean isDigit(int one) {
             return one >= '0' && one <= '9';
-        }
-
-        private static boolean isSignByte(int one) {
-            switch (one) {
-                case '+':
-                case '-':
-                case '*':
-                case '<':
-                case '=':
-                case '(':
-                case ')':
-                case ';':
-                    return true;
-                default:
-                    return false;
-            }
         }
     }
 

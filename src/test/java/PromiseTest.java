@@ -189,14 +189,14 @@ public final class PromiseTest {
             nine.append("sound ").append((char) ('a' + k)).append(' ').append(k).append(" 0;");
         }
         faults(0, nine + "voice 1 0; face 1 0;", NONE);
-        faultAt(0, nine + "|sound j 50 0;");
+        faultAt(0, "voice 1 0; face 1 0;" + nine + "|sound j 50 0;");
         String three = "sound a 1 1;sound b 1 2;sound c 1 3;sound d 1 4;";
         StringBuilder twelve = new StringBuilder(three);
         for (int k = 0; k < 12; k++) {
             twelve.append("learn ").append("abcd".charAt(k / 4)).append(' ').append("abcd".charAt(k % 4)).append(" a;");
         }
         faults(0, twelve + "voice 1 0; face 1 0;", NONE);
-        faultAt(0, twelve + "|learn d d a;");
+        faultAt(0, "voice 1 0; face 1 0;" + twelve + "|learn d d a;");
         faultAt(0, "sound a 1 1; voice 1 1; face 1 1;|");
         faultAt(0, "sound a 1 1; sound b 2 2; face 1 1;|");
         faultAt(0, "sound a 1 1; sound b 2 2; voice 1 1;   |");
@@ -605,6 +605,11 @@ public final class PromiseTest {
         even.answer(0, 0, 0, 0);
         due("least voice's change", even.own(0, 0), -1);
         due("then the face's", even.own(0, 1), 0);
+        // a is certain with f 10 or v 10 at most: as it is, with f 10, nothing has to change
+        LipsVoice sure = with("sound a 10 0; sound b 20 0; voice 11 0; face 10 0; odds 16 99;");
+        sure.answer(0, 0, 0, 0);
+        due("as it is", sure.own(0, 0), 0);
+        due("as it is", sure.own(0, 1), 0);
         // All J are alike 0 for changes of the face within 5: the first of like ones is no change at all
         LipsVoice far = with("sound a 0 0; sound b 90 90; voice 20 0; face 20 0; odds 16 99;");
         far.answer(0, 0, 0, 0);
@@ -698,6 +703,13 @@ public final class PromiseTest {
         LipsVoice one = with(ROW + "odds 16 1;");
         due("above", one.hump(2, 0, 0), 3);
         due("below: half of 1 is 1", one.hump(2, 0, 1), 3);
+        // VOICE 21, 1, 0 and FACE 0, 1, 21: 1000 at 16, 126 at 15
+        LipsVoice sharp = with("sound ba 10 0; sound da 30 0; sound ga 50 0; voice 21 0; face 21 0; odds 16 1;");
+        due("gone at 1", sharp.hump(2, 0, 0), 0);
+        due("gone at -1", sharp.hump(2, 0, 1), 0);
+        LipsVoice last = with("sound ba 10 0; sound da 30 0; sound ga 50 0; voice 21 0; face 21 0; odds 16 99;");
+        due("gone at 99 alone", last.hump(2, 0, 0), 98);
+        due("gone at half of 99", last.hump(2, 0, 1), 48);
         due("side 2", one.hump(2, 0, 2), NONE);
         due("side -1", one.hump(2, 0, -1), NONE);
         due("who 3", one.hump(3, 0, 0), NONE);
@@ -712,6 +724,10 @@ public final class PromiseTest {
         due("THIRD at 0", odd.kind(4, 2, 0, 0, 3), 631);
         due("THIRD at 13", odd.kind(4, 2, 0, 13, 3), 315);
         due("315 is less than half of 631", odd.hump(2, 0, 0), 12);
+        LipsVoice even = with("sound ba 10 0; sound da 31 3; sound ga 52 0; voice 33 0; face 24 0; odds 14 1;");
+        due("THIRD at 0", even.kind(4, 2, 0, 0, 3), 476);
+        due("THIRD at 9", even.kind(4, 2, 0, 9, 3), 238);
+        due("238 is half of 476", even.hump(2, 0, 0), 9);
     }
 
     private static void rightAndWorth() {
