@@ -761,10 +761,6 @@ public final class LipsVoice {
                 }
             }
         }
-
-        int byteAt(int place) {
-            return place >= 0 && place < length ? bytes[place] : NONE;
-        }
     }
 
     private static final class Tokens {
@@ -772,6 +768,7 @@ public final class LipsVoice {
         static final int WORD = 1;
         static final int NUMBER = 2;
         static final int SIGN = 3;
+        private static final int BLANK = 4;
 
         // Words as their letters' bytes in one number: two of them are compared without making a String.
         static final long SOUND_WORD = 0x736f756e64L;
@@ -818,43 +815,42 @@ public final class LipsVoice {
 
         void step() {
             place = stop;
-            while (place < text.length && isBlank(text.byteAt(place))) {
+            while (place < text.length && sortOf(text.bytes[place]) == BLANK) {
                 place++;
             }
             stop = place;
             value = 0;
-            int first = text.byteAt(place);
-            if (first == NONE) {
-                sort = END;
-            } else if (isLetter(first)) {
-                readWord();
-            } else if (isDigit(first)) {
-                readNumber();
-            } else {
-                // A byte that begins no token stands nowhere, as a sign that is asked for nowhere does.
-                sort = SIGN;
-                value = first;
-                stop = place + 1;
-            }
-        }
-
-        private void readWord() {
-            sort = WORD;
-            while (stop < text.length && isLetter(text.byteAt(stop))) {
-                value = (value << 8) | text.byteAt(stop);
+            sort = place < text.length ? sortOf(text.bytes[place]) : END;
+            int end = sort == SIGN ? place + 1 : text.length;
+            while (stop < end && sortOf(text.bytes[stop]) == sort) {
+                take(text.bytes[stop]);
                 stop++;
             }
-            if (stop - place > LONGEST_WORD) {
+            if (sort == WORD && stop - place > LONGEST_WORD) {
                 value = TOO_LONG;
             }
         }
 
-        private void readNumber() {
-            sort = NUMBER;
-            while (stop < text.length && isDigit(text.byteAt(stop))) {
-                value = Math.min(TOO_GREAT, value * 10 + text.byteAt(stop) - '0');
-                stop++;
+        private void take(int one) {
+            if (sort == WORD) {
+                value = (value << 8) | one;
+            } else if (sort == NUMBER) {
+                value = value * 10 + one - '0';
+                value = value > TOO_GREAT ? TOO_GREAT : value;
+            } else {
+                value = one;
             }
+        }
+
+        // A byte that begins no token stands nowhere, as a sign that is asked for nowhere does.
+        private static int sortOf(int one) {
+            if (one >= 'a' && one <= 'z') {
+                return WORD;
+            }
+            if (one >= '0' && one <= '9') {
+                return NUMBER;
+            }
+            return one == 32 || one == 10 ? BLANK : SIGN;
         }
 
         boolean isWord(long word) {
@@ -873,18 +869,6 @@ public final class LipsVoice {
             boolean isKey = value == SOUND_WORD || value == VOICE_WORD || value == FACE_WORD
                 || value == ODDS_WORD || value == HOLD_WORD || value == LEARN_WORD;
             return sort == WORD && value != TOO_LONG && !isKey;
-        }
-
-        private static boolean isBlank(int one) {
-            return one == 32 || one == 10;
-        }
-
-        private static boolean isLetter(int one) {
-            return one >= 'a' && one <= 'z';
-        }
-
-        private static boolean isDigit(int one) {
-            return one >= '0' && one <= '9';
         }
     }
 
@@ -1253,6 +1237,32 @@ public final class LipsVoice {
         }
 
         private boolean readLine() {
+            if (!readHead()) {
+                return false;
+            }
+            boolean goesOn = true;
+            for (int k = 0; k < MOST_BYTES && goesOn; k++) {
+                tokens.step();
+                if (!readSum(0) || !isComparison()) {
+                    return false;
+                }
+                int sign = (int) tokens.value;
+                tokens.step();
+                if (!readSum(0)) {
+                    return false;
+                }
+                rules.emit(Rules.SIGN_CODES + sign);
+                goesOn = tokens.isWord(Tokens.AND_WORD);
+            }
+            if (!tokens.isSign(';')) {
+                return false;
+            }
+            rules.endLine();
+            tokens.step();
+            return true;
+        }
+
+        private boolean readHead() {
             if (!tokens.isWord(Tokens.CALL_WORD) || rules.lines >= MOST_LINES) {
                 return false;
             }
@@ -1263,42 +1273,11 @@ public final class LipsVoice {
             }
             rules.beginLine(outcome);
             tokens.step();
-            if (!tokens.isWord(Tokens.IF_WORD) || !readConditions() || !tokens.isSign(';')) {
-                return false;
-            }
-            rules.endLine();
-            tokens.step();
-            return true;
+            return tokens.isWord(Tokens.IF_WORD);
         }
 
-        private boolean readConditions() {
-            tokens.step();
-            if (!readCondition()) {
-                return false;
-            }
-            for (int k = 0; k < MOST_BYTES && tokens.isWord(Tokens.AND_WORD); k++) {
-                tokens.step();
-                if (!readCondition()) {
-                    return false;
-                }
-            }
-            return true;
-        }
-
-        private boolean readCondition() {
-            if (!readSum(0)) {
-                return false;
-            }
-            boolean isLess = tokens.isSign('<');
-            if (!isLess && !tokens.isSign('=')) {
-                return false;
-            }
-            tokens.step();
-            if (!readSum(0)) {
-                return false;
-            }
-            rules.emit(Rules.SIGN_CODES + (isLess ? '<' : '='));
-            return true;
+        private boolean isComparison() {
+            return tokens.isSign('<') || tokens.isSign('=');
         }
 
         private boolean readSum(int depth) {
@@ -1365,30 +1344,25 @@ public final class LipsVoice {
             if (tokens.isNumber(0, GREATEST_NUMBER)) {
                 return (int) tokens.value;
             }
-            int atom = atomOfWord();
-            return atom == NONE ? NONE : Rules.ATOM_CODES + atom;
-        }
-
-        private int atomOfWord() {
             if (tokens.isWord(Tokens.THIRD_WORD)) {
-                return THIRD_ATOM;
+                return Rules.ATOM_CODES + THIRD_ATOM;
             }
             if (tokens.isWord(Tokens.NOTICED_WORD)) {
-                return NOTICED_ATOM;
+                return Rules.ATOM_CODES + NOTICED_ATOM;
             }
             if (tokens.isWord(Tokens.VOICE_WORD)) {
-                return VOICE_ATOM;
+                return Rules.ATOM_CODES + VOICE_ATOM;
             }
             if (tokens.isWord(Tokens.FACE_WORD)) {
-                return FACE_ATOM;
+                return Rules.ATOM_CODES + FACE_ATOM;
             }
             if (tokens.isWord(Tokens.NOISE_WORD)) {
-                return NOISE_ATOM;
+                return Rules.ATOM_CODES + NOISE_ATOM;
             }
             if (tokens.isWord(Tokens.DARK_WORD)) {
-                return DARK_ATOM;
+                return Rules.ATOM_CODES + DARK_ATOM;
             }
-            return tokens.isWord(Tokens.LATE_WORD) ? LATE_ATOM : NONE;
+            return tokens.isWord(Tokens.LATE_WORD) ? Rules.ATOM_CODES + LATE_ATOM : NONE;
         }
     }
 

@@ -152,6 +152,7 @@ public final class PromiseTest {
         faultAt(0, "sound ba 1 |100;");
         faultAt(0, "sound ba |-1 1;");
         faultAt(0, "sound |ninewords 1 1;");
+        faults(0, "sound zaz 1 1; sound az 0 9; hold zaz 9; voice 1 0; face 1 0;", NONE);
         faults(0, "sound eightlet 1 1; sound call 1 2; voice 1 0; face 1 0;", NONE);
         for (String key : new String[] {"sound", "voice", "face", "odds", "hold", "learn"}) {
             faultAt(0, "sound |" + key + " 1 1;");
