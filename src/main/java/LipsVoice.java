@@ -59,8 +59,6 @@ public final class LipsVoice {
     public LipsVoice() {
         text = new Text();
         Tokens tokens = new Tokens(text);
-        sceneReader = new SceneReader(tokens);
-        rulesReader = new RulesReader(tokens);
         sheet = new Sheet();
         images = new Sheet[IMAGES];
         for (int k = 0; k < IMAGES; k++) {
@@ -70,6 +68,8 @@ public final class LipsVoice {
         spareScene = new Scene();
         currentRules = new Rules();
         spareRules = new Rules();
+        sceneReader = new SceneReader(tokens, spareScene);
+        rulesReader = new RulesReader(tokens, spareRules);
         trial = new Trial(currentScene);
         scale = new Scale();
         atoms = new long[RulesReader.ATOMS];
@@ -931,11 +931,11 @@ public final class LipsVoice {
         private int first;
         private int second;
 
-        SceneReader(Tokens tokens) {
+        SceneReader(Tokens tokens, Scene scene) {
             this.tokens = tokens;
             names = new long[MOST_SOUNDS];
             held = new boolean[MOST_SOUNDS];
-            scene = null;
+            this.scene = scene;
             hasOdds = false;
             first = 0;
             second = 0;
@@ -1220,9 +1220,9 @@ public final class LipsVoice {
         private final Tokens tokens;
         private Rules rules;
 
-        RulesReader(Tokens tokens) {
+        RulesReader(Tokens tokens, Rules rules) {
             this.tokens = tokens;
-            rules = null;
+            this.rules = rules;
         }
 
         int read(Rules into) {
