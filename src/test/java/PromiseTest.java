@@ -1,66 +1,6 @@
 /** Each promise of the document by hand: ordinary calls, edges, and calls that can't be. */
-public final class PromiseTest {
-    private static final int NONE = -1;
-    private static final int VOID = Integer.MIN_VALUE;
-
-    private static final String ROW = "sound ba 10 50; sound da 30 50; sound ga 50 50; voice 30 5; face 25 5;";
+public final class PromiseTest extends Checks {
     private static final String RULES = "call fused if noticed < 300 and third = 1000; call apart if 1 = 1;";
-
-    private static int passed = 0;
-    private static int failed = 0;
-    private static String promise = "";
-
-    private static void due(String call, long got, long want) {
-        if (got == want) {
-            passed++;
-        } else {
-            failed++;
-            System.out.println(promise + ": " + call + " answered " + got + ", due is " + want);
-        }
-    }
-
-    private static void due(String call, boolean got, boolean want) {
-        due(call, got ? 1 : 0, want ? 1 : 0);
-    }
-
-    private static void tell(LipsVoice x, String text) {
-        x.end(0);
-        String padded = text + " ".repeat((20 - text.length() % 20) % 20);
-        for (int k = 0; k < padded.length(); k += 20) {
-            int[] n = new int[5];
-            for (int j = 0; j < 20; j++) {
-                n[j / 4] = n[j / 4] << 8 | padded.charAt(k + j) & 255;
-            }
-            x.feed(n[0], n[1], n[2], n[3], n[4]);
-        }
-        x.end(text.length());
-    }
-
-    private static LipsVoice with(String text) {
-        LipsVoice x = new LipsVoice();
-        tell(x, text);
-        due("scene() of " + text, x.scene() >= 2, true);
-        return x;
-    }
-
-    private static LipsVoice withRules(String scene, String rules) {
-        LipsVoice x = with(scene);
-        tell(x, rules);
-        due("rules() of " + rules, x.rules() >= 1, true);
-        return x;
-    }
-
-    private static void faults(int what, String text, int want) {
-        LipsVoice x = new LipsVoice();
-        tell(x, text);
-        due("fault(" + what + ") of [" + text + "]", x.fault(what), want);
-        due("length after fault", x.count(7), text.length());
-    }
-
-    /** The fault stands where the sign | does. */
-    private static void faultAt(int what, String marked) {
-        faults(what, marked.replace("|", ""), marked.indexOf('|'));
-    }
 
     private static String times(String text, int n) {
         return text.repeat(n);
@@ -91,14 +31,11 @@ public final class PromiseTest {
         images();
         counts();
         withoutScene();
-        System.out.println("PromiseTest: " + passed + " passed, " + failed + " failed");
-        if (failed > 0) {
-            System.exit(1);
-        }
+        end("PromiseTest");
     }
 
     private static void newObject() {
-        promise = "promise 1";
+        shows("promise 1");
         LipsVoice x = new LipsVoice();
         for (int what = 0; what <= 7; what++) {
             due("count(" + what + ")", x.count(what), 0);
@@ -110,14 +47,14 @@ public final class PromiseTest {
     }
 
     private static void feedAndEnd() {
-        promise = "promise 2";
+        shows("promise 2");
         LipsVoice x = new LipsVoice();
         for (int k = 1; k <= 25; k++) {
             due("feed " + k, x.feed(-1, 0, 0x20202020, 7, 8), 20 * k);
         }
         due("26th feed", x.feed(0x20202020, 0, 0, 0, 0), NONE);
         due("count(7)", x.count(7), 500);
-        promise = "promise 3";
+        shows("promise 3");
         due("end(501)", x.end(501), false);
         due("end(-1)", x.end(-1), false);
         due("count(7)", x.count(7), 500);
@@ -130,7 +67,7 @@ public final class PromiseTest {
         due("end(0)", x.end(0), true);
         due("end(1)", x.end(1), false);
         due("end at the least", x.end(Integer.MIN_VALUE), false);
-        promise = "promise 2";
+        shows("promise 2");
         // "sound a 1 2;sound b " by its highest bytes first
         due("feed", x.feed(0x736f756e, 0x64206120, 0x3120323b, 0x736f756e, 0x64206220), 20);
         due("feed", x.feed(0x33203420, 0x3b766f69, 0x63652031, 0x20303b66, 0x61636520), 40);
@@ -140,7 +77,7 @@ public final class PromiseTest {
     }
 
     private static void sceneFaults() {
-        promise = "promise 4";
+        shows("promise 4");
         faults(2, "", VOID);
         faults(-1, "", VOID);
         faults(0, ROW, NONE);
@@ -214,7 +151,7 @@ public final class PromiseTest {
     }
 
     private static void sceneValues() {
-        promise = "promise 7";
+        shows("promise 7");
         LipsVoice x = with("sound a 0 99; hold a 9; sound b 7 8; voice 1 0; face 1 0;");
         due("sound(0, 0)", x.sound(0, 0), 0);
         due("sound(0, 1)", x.sound(0, 1), 99);
@@ -232,7 +169,7 @@ public final class PromiseTest {
     }
 
     private static void rulesFaults() {
-        promise = "promise 4";
+        shows("promise 4");
         faults(1, RULES, NONE);
         faults(1, "", 0);
         faults(1, " \n", 2);
@@ -268,7 +205,7 @@ public final class PromiseTest {
     }
 
     private static void scenesAndRules() {
-        promise = "promise 5";
+        shows("promise 5");
         LipsVoice x = with(ROW);
         due("text is empty", x.count(7), 0);
         x.person(1, 1, 101);
@@ -283,7 +220,7 @@ public final class PromiseTest {
         due("sound stays", x.sound(0, 0), 10);
         due("weight stays", x.weight(0, 2, 0, 0, -1), 40);
         due("image stays", x.back(0), true);
-        promise = "promise 6";
+        shows("promise 6");
         due("rules() with a fault", x.rules(), NONE);
         tell(x, RULES);
         due("rules()", x.rules(), 2);
@@ -294,7 +231,7 @@ public final class PromiseTest {
         due("text stays", x.count(7), 10);
         due("fault(1)", x.fault(1), 10);
         due("called stays", x.called(2, 0, 0, 0), 0);
-        promise = "promise 5";
+        shows("promise 5");
         tell(x, ROW + "odds 9 7;");
         due("scene()", x.scene(), 3);
         due("no people but 0", x.count(2), 1);
@@ -309,7 +246,7 @@ public final class PromiseTest {
     }
 
     private static void people() {
-        promise = "promise 8";
+        shows("promise 8");
         LipsVoice x = with(ROW + "odds 11 50;");
         due("person", x.person(-30, 30, 316), 1);
         due("person", x.person(30, -30, 0), 2);
@@ -324,7 +261,7 @@ public final class PromiseTest {
         due("person", x.person(0, 0, -100), NONE);
         due("person", x.person(Integer.MIN_VALUE, Integer.MAX_VALUE, Integer.MAX_VALUE), NONE);
         due("count(2)", x.count(2), 3);
-        promise = "promise 9";
+        shows("promise 9");
         due("who(0, 0)", x.who(0, 0), 0);
         due("who(0, 1)", x.who(0, 1), 0);
         due("who(0, 2)", x.who(0, 2), 11);
@@ -337,7 +274,7 @@ public final class PromiseTest {
         due("who(1, -1)", x.who(1, -1), VOID);
         due("who(3, 0)", x.who(3, 0), VOID);
         due("who(-1, 0)", x.who(-1, 0), VOID);
-        promise = "promise 10";
+        shows("promise 10");
         due("becomes", x.becomes(1, 5, -6, 7), true);
         due("who(1, 0)", x.who(1, 0), 5);
         due("who(1, 1)", x.who(1, 1), -6);
@@ -353,7 +290,7 @@ public final class PromiseTest {
         due("becomes 0", x.becomes(0, -1, 1, 0), true);
         due("who(0, 2)", x.who(0, 2), 0);
         due("count(5) is the scene's", x.count(5), 11);
-        promise = "promise 8";
+        shows("promise 8");
         for (int k = 3; k <= 9; k++) {
             due("person", x.person(0, 0, 0), k);
         }
@@ -362,7 +299,7 @@ public final class PromiseTest {
     }
 
     private static void weights() {
-        promise = "promise 11";
+        shows("promise 11");
         LipsVoice x = with(ROW + "odds 16 10; hold da 2; learn ba ga da;");
         // VOICE ba: 30, 2 * 10, 0; FACE ga: 0, 5, 25; F is 30, A 50, J 100
         due("VOICE ba", x.weight(0, 2, 0, 0, 0), 30);
@@ -393,23 +330,23 @@ public final class PromiseTest {
         int[][] wrong = {{-1, 2, 0, 0, 0}, {7, 2, 0, 0, 0}, {0, 3, 0, 0, 0}, {0, 30, 0, 0, 0}, {0, 202, 0, 0, 0}, {0, -1, 0, 0, 0},
             {0, 2, 100, 0, 0}, {0, 2, -1, 0, 0}, {0, 2, 0, 100, 0}, {0, 2, 0, -100, 0}, {0, 2, 0, 0, 3}, {0, 2, 0, 0, -2}};
         for (int[] w : wrong) {
-            promise = "promise 11";
+            shows("promise 11");
             due("weight " + java.util.Arrays.toString(w), x.weight(w[0], w[1], w[2], w[3], w[4]), NONE);
-            promise = "promise 12";
+            shows("promise 12");
             due("chance " + java.util.Arrays.toString(w), x.chance(w[0], w[1], w[2], w[3], w[4]), NONE);
             if (w[4] == 0) {
-                promise = "promise 13";
+                shows("promise 13");
                 due("kind " + java.util.Arrays.toString(w), x.kind(w[0], w[1], w[2], w[3], 0), NONE);
-                promise = "promise 14";
+                shows("promise 14");
                 due("likely " + java.util.Arrays.toString(w), x.likely(w[0], w[1], w[2], w[3]), NONE);
-                promise = "promise 30";
+                shows("promise 30");
                 due("knowing " + java.util.Arrays.toString(w), x.knowing(w[0], w[1], w[2], w[3]), NONE);
             }
         }
     }
 
     private static void weightsInEdges() {
-        promise = "promise 11";
+        shows("promise 11");
         LipsVoice far = with("sound a 0 0; sound b 99 99; sound c 99 0; voice 1 0; face 1 0; odds 16 1;");
         due("ONE as VOICE", far.weight(3, 1, 0, 0, 0), 1);
         due("ODDS as VOICE", far.weight(4, 1, 0, 0, -1), 1);
@@ -440,13 +377,13 @@ public final class PromiseTest {
     }
 
     private static void chances() {
-        promise = "promise 12";
+        shows("promise 12");
         LipsVoice x = with(ROW + "odds 16 10;");
         due("chance 750", x.chance(0, 2, 0, 0, 0), 750);
         due("chance cut", x.chance(1, 2, 0, 0, 2), 833);
         due("chance 0", x.chance(0, 2, 0, 0, 2), 0);
         due("chance NONE", x.chance(0, 2, 0, 0, -1), NONE);
-        promise = "promise 13";
+        shows("promise 13");
         due("ALIKE", x.kind(0, 0, 0, 0, 0), 750);
         due("VOICE's of like ones", x.kind(0, 0, 0, 0, 1), 0);
         due("FACE's of like ones", x.kind(0, 0, 0, 0, 2), 0);
@@ -460,7 +397,7 @@ public final class PromiseTest {
         // VOICE 7, 4, 1, 6 of 18: the two that are no one's are told together
         LipsVoice four = with("sound a 0 0; sound b 3 0; sound c 6 0; sound d 1 0; voice 7 0; face 7 0;");
         due("THIRD together", four.kind(0, 2, 0, 0, 3), 1000 * (4 + 6) / (7 + 4 + 1 + 6));
-        promise = "promise 14";
+        shows("promise 14");
         due("likely", x.likely(0, 20, 0, 0), 2);
         due("likely face", x.likely(1, 20, 0, 0), 0);
         due("likely one", x.likely(3, 20, 0, 0), 1);
@@ -469,7 +406,7 @@ public final class PromiseTest {
         LipsVoice two = with("sound a 0 0; sound b 2 0; voice 9 0; face 9 0;");
         due("of like ones the least", two.likely(3, 1, 0, 0), 0);
         due("of like ones the least", two.likely(3, 10, 0, 0), 0);
-        promise = "promise 15";
+        shows("promise 15");
         due("noticed 0 at P 16", x.noticed(2, 0, 0), 0);
         // p 15: 1 * 40 * 30 by 15 * 3 * 50 and that
         due("noticed", x.noticed(2, 0, 10), 1000 * 1200 / (2250 + 1200));
@@ -485,7 +422,7 @@ public final class PromiseTest {
     }
 
     private static void answers() {
-        promise = "promise 16";
+        shows("promise 16");
         LipsVoice x = with(ROW);
         x.person(0, 0, 116);
         due("answer", x.answer(2, 35, -99, 1), 1);
@@ -498,7 +435,7 @@ public final class PromiseTest {
             due("answer " + java.util.Arrays.toString(w), x.answer(w[0], w[1], w[2], w[3]), NONE);
         }
         due("count(3)", x.count(3), 4);
-        promise = "promise 18";
+        shows("promise 18");
         int[][] all = {{2, 35, -99, 1, 0, 3}, {111, 99, 99, 2, 1, 3}, {22, 0, 0, 2, 0, 0}, {10, 0, 0, 0, 0, 2}};
         for (int k = 0; k < all.length; k++) {
             for (int what = 0; what < 6; what++) {
@@ -509,14 +446,14 @@ public final class PromiseTest {
         due("of(0, -1)", x.of(0, -1), VOID);
         due("of(4, 0)", x.of(4, 0), VOID);
         due("of(-1, 0)", x.of(-1, 0), VOID);
-        promise = "promise 17";
+        shows("promise 17");
         due("undo", x.undo(), 3);
         due("of(3, 0)", x.of(3, 0), VOID);
         due("undo", x.undo(), 2);
         due("undo", x.undo(), 1);
         due("undo", x.undo(), 0);
         due("undo without", x.undo(), NONE);
-        promise = "promise 16";
+        shows("promise 16");
         for (int k = 1; k <= 60; k++) {
             due("answer", x.answer(0, 0, 0, 0), k);
         }
@@ -525,17 +462,17 @@ public final class PromiseTest {
     }
 
     private static void fits() {
-        promise = "promise 19";
+        shows("promise 19");
         LipsVoice x = with(ROW + "odds 8 99;");
         x.person(0, 0, 16);
         due("without answers", x.more(0, 6, -1), 0);
         due("without answers", x.more(0, 6, 0), 0);
-        promise = "promise 20";
+        shows("promise 20");
         due("without answers", x.best(-1), 0);
         due("without answers", x.best(1), 0);
         x.answer(2, 0, 0, 0);
         x.answer(102, 0, 0, 2);
-        promise = "promise 19";
+        shows("promise 19");
         due("person 0", x.more(0, 1, 0), 1);
         due("person 1", x.more(0, 1, 1), 2);
         due("all: both are 0", x.more(0, 1, -1), 0);
@@ -546,13 +483,13 @@ public final class PromiseTest {
         due("law -1", x.more(0, -1, 0), NONE);
         due("person 2", x.more(0, 1, 2), NONE);
         due("person -2", x.more(0, 1, -2), NONE);
-        promise = "promise 20";
+        shows("promise 20");
         due("person 0", x.best(0), 0);
         due("person 1", x.best(1), 1);
         due("all at 0: the least", x.best(-1), 0);
         due("person 2", x.best(2), NONE);
         due("person -2", x.best(-2), NONE);
-        promise = "promise 19";
+        shows("promise 19");
         // The same chances in another order, 20/30 * 10/30 and 10/30 * 20/30, are alike; one more answer parts them.
         LipsVoice like = with("sound a 0 0; sound b 10 0; voice 20 0; face 20 0;");
         for (int k = 0; k < 29; k++) {
@@ -574,7 +511,7 @@ public final class PromiseTest {
     }
 
     private static void ownSpansAndOdds() {
-        promise = "promise 21";
+        shows("promise 21");
         LipsVoice x = with("sound a 10 0; sound b 20 0; voice 20 0; face 20 0; odds 0 99;");
         x.person(30, 30, 16);
         due("without answers", x.own(0, 0), 0);
@@ -620,7 +557,7 @@ public final class PromiseTest {
     }
 
     private static void sharesAndForetold() {
-        promise = "promise 22";
+        shows("promise 22");
         LipsVoice x = with(ROW);
         x.person(0, 0, 116);
         x.person(0, 0, 316);
@@ -641,7 +578,7 @@ public final class PromiseTest {
         due("land -2", x.share(-2, 0), NONE);
         due("kind 5", x.share(-1, 5), NONE);
         due("kind -1", x.share(-1, -1), NONE);
-        promise = "promise 23";
+        shows("promise 23");
         // VOICE: ba with ba 750 ALIKE and 250 THIRD; ba with ga 750, 0, 250 THIRD (twice)
         due("ALIKE", x.foretold(0, -1, 0), 250);
         due("VOICE's", x.foretold(0, -1, 1), 500);
@@ -667,7 +604,7 @@ public final class PromiseTest {
     }
 
     private static void pairs() {
-        promise = "promise 24";
+        shows("promise 24");
         LipsVoice x = with(ROW);
         due("thirds", x.pairs(33, 0, 0, 0, -1), 2);
         due("first", x.pairs(33, 0, 0, 0, 0), 2);
@@ -693,7 +630,7 @@ public final class PromiseTest {
     }
 
     private static void humps() {
-        promise = "promise 25";
+        shows("promise 25");
         // At p: THIRD is 4800 - 150 p of 19200 - 1050 p; 513 at 13, 454 at 12
         LipsVoice x = with(ROW + "odds 16 3;");
         due("above", x.hump(2, 0, 0), 11);
@@ -732,7 +669,7 @@ public final class PromiseTest {
     }
 
     private static void rightAndWorth() {
-        promise = "promise 26";
+        shows("promise 26");
         LipsVoice x = with(ROW);
         due("VOICE", x.right(0, 0, 0), 2100);
         due("VOICE at noise 1", x.right(0, 0, 10), 700 + 538 + 700);
@@ -746,7 +683,7 @@ public final class PromiseTest {
         due("person -1", x.right(0, -1, 0), NONE);
         due("setting 100", x.right(0, 0, 100), NONE);
         due("setting -1", x.right(0, 0, -1), NONE);
-        promise = "promise 27";
+        shows("promise 27");
         due("nothing", x.worth(0, 0, 55), 0);
         due("as often at noise 8", x.worth(1, 0, 99), 1);
         due("never as often", x.worth(6, 0, 99), NONE);
@@ -761,7 +698,7 @@ public final class PromiseTest {
     }
 
     private static void partedAndNext() {
-        promise = "promise 28";
+        shows("promise 28");
         LipsVoice x = with(ROW);
         due("ONE and VOICE", x.parted(30, 2, 0, 0), 750);
         due("VOICE and ONE", x.parted(3, 2, 0, 0), 750);
@@ -778,7 +715,7 @@ public final class PromiseTest {
         due("who 3", x.parted(0, 3, 0, 0), NONE);
         due("setting 100", x.parted(0, 0, 100, 0), NONE);
         due("late 100", x.parted(0, 0, 0, 100), NONE);
-        promise = "promise 29";
+        shows("promise 29");
         due("next", x.next(30, 0, 0, 0), 20);
         due("how much", x.next(30, 0, 0, 1), 750);
         due("itself", x.next(44, 0, 0, 0), 0);
@@ -795,7 +732,7 @@ public final class PromiseTest {
     }
 
     private static void knowing() {
-        promise = "promise 30";
+        shows("promise 30");
         LipsVoice x = with(ROW + "learn ga ba da;");
         due("ODDS", x.knowing(4, 2, 0, 0), 0);
         due("VOICE", x.knowing(0, 2, 0, 0), 1);
@@ -814,7 +751,7 @@ public final class PromiseTest {
     }
 
     private static void called() {
-        promise = "promise 31";
+        shows("promise 31");
         LipsVoice x = withRules(ROW + "odds 16 10;", RULES);
         due("first", x.called(2, 0, 0, 0), 0);
         due("first's line", x.called(2, 0, 0, 1), 0);
@@ -847,7 +784,7 @@ public final class PromiseTest {
     }
 
     private static void draws() {
-        promise = "promise 32";
+        shows("promise 32");
         LipsVoice x = with(ROW + "odds 16 99;");
         x.person(2, 3, 116);
         due("draw", x.draw(4, 1, 77, 5), 5);
@@ -894,17 +831,17 @@ public final class PromiseTest {
     }
 
     private static void images() {
-        promise = "promise 33";
+        shows("promise 33");
         LipsVoice x = with(ROW);
         due("image(3)", x.image(3), false);
         due("image(-1)", x.image(-1), false);
-        promise = "promise 34";
+        shows("promise 34");
         due("back(0) without", x.back(0), false);
         due("back(3)", x.back(3), false);
         due("back(-1)", x.back(-1), false);
         x.person(1, 2, 103);
         x.answer(101, 5, 6, 102);
-        promise = "promise 33";
+        shows("promise 33");
         due("image(2)", x.image(2), true);
         x.becomes(1, 9, 9, 9);
         x.person(4, 5, 206);
@@ -912,7 +849,7 @@ public final class PromiseTest {
         x.answer(200, 0, 0, 0);
         x.answer(201, 0, 0, 0);
         due("image(0)", x.image(0), true);
-        promise = "promise 34";
+        shows("promise 34");
         for (int again = 0; again < 2; again++) {
             due("back(2)", x.back(2), true);
             due("people", x.count(2), 2);
@@ -940,7 +877,7 @@ public final class PromiseTest {
     }
 
     private static void counts() {
-        promise = "promise 35";
+        shows("promise 35");
         LipsVoice x = withRules(ROW + "odds 9 42; learn ba ga da; learn ga ba da;", RULES);
         x.person(0, 0, 0);
         x.answer(0, 0, 0, 0);
@@ -964,7 +901,7 @@ public final class PromiseTest {
 
     private static void withoutScene() {
         LipsVoice x = new LipsVoice();
-        promise = "without a scene";
+        shows("without a scene");
         due("person", x.person(0, 0, 0), NONE);
         due("who", x.who(0, 0), VOID);
         due("becomes", x.becomes(0, 0, 0, 0), false);
