@@ -535,6 +535,14 @@ public final class TextEdgeTest extends Checks {
         faultAt(1, "call fused |and 1=1;");
         faultAt(1, "call fused if 1=1;|1");
         faultAt(1, "call fused if 1=1;|sound a 1 1;");
+        faultAt(1, "call fused if 1=1 |call fused if 1=1;");
+        faultAt(1, "call |call fused if 1=1;");
+        faultAt(1, "call fused |call fused if 1=1;");
+        faultAt(1, "call fused if |call fused if 1=1;");
+        faultAt(1, "call fused if 1|call fused if 1=1;");
+        faultAt(1, "call fused if 1=|call fused if 1=1;");
+        faultAt(1, "call fused if 1=1 and |call fused if 1=1;");
+        faultAt(1, "call fused if (|call fused if 1=1;");
     }
 
     private static void comparisons() {
